@@ -14,7 +14,8 @@ public final class ModelTest {
     private final boolean gentle;
 
     private ModelTest(long seed) {
-        chance = new Random(seed);
+        // seeds that lie side by side would begin with the same choices
+        chance = new Random(seed * 0x9E3779B97F4A7C15L);
         gentle = chance.nextBoolean();
         int blocks = new int[] {1, 4, 12, 40, 120, 201}[chance.nextInt(6)] + chance.nextInt(3);
         int size = chance.nextInt(3) == 0 ? chance.nextInt(70) : 4 + chance.nextInt(9);
@@ -31,6 +32,7 @@ public final class ModelTest {
     }
 
     private void play(String name) {
+        setOrder();
         for (int i = 0; i < CALLS; i++) {
             String[] answers = oneCall();
             String what = name + " call " + i + " " + answers[0];
@@ -44,6 +46,22 @@ public final class ModelTest {
             }
         }
         compareRecords(name);
+    }
+
+    /** Half of the runs have a width and keys from their start, as later few of them would. */
+    private void setOrder() {
+        if (chance.nextBoolean()) {
+            return;
+        }
+        int width = 1 + chance.nextInt(4);
+        sorter.width(width);
+        plain.width(width);
+        for (int column = width - 1; column >= 0; column--) {
+            if (chance.nextInt(5) < 2) {
+                boolean down = chance.nextBoolean();
+                Due.is("key", sorter.key(column, down), plain.key(column, down));
+            }
+        }
     }
 
     /** A number that is good, or now and then one about an edge. */
@@ -69,21 +87,28 @@ public final class ModelTest {
     }
 
     private String[] oneCall() {
-        int kind = chance.nextInt(100);
         if (plain.down && chance.nextInt(3) == 0) {
             return both("up()", sorter::up, plain::up);
         }
-        if (kind < 22) {
+        if (plain.runs() > 1 && plain.free.size() < 2 + chance.nextInt(4)) {
+            int run = chance.nextInt(plain.runs());
+            return both("drop", () -> sorter.drop(run), () -> plain.drop(run));
+        }
+        int kind = chance.nextInt(100);
+        if (kind < 32 && !mayCome()) {
+            kind = 32 + chance.nextInt(12);
+        }
+        if (kind < 12) {
             long a = value();
             long b = value();
             long c = value();
             long d = value();
             return both("feed", () -> sorter.feed(a, b, c, d), () -> plain.feed(a, b, c, d));
         }
-        if (kind < 34) {
+        if (kind < 32) {
             long seed = chance.nextLong();
             int span = chance.nextInt(3) == 0 ? number(1, 1_000_000_000) : number(1, 9);
-            int n = chance.nextBoolean() ? number(0, 300) : number(0, 30);
+            int n = number(0, Math.max(1, Math.min(300, roomForInput())));
             return both("run", () -> sorter.run(seed, span, n), () -> plain.run(seed, span, n));
         }
         if (kind < 44) {
@@ -91,6 +116,16 @@ public final class ModelTest {
             return both("form " + way, () -> sorter.form(way), () -> plain.form(way));
         }
         return kind < 60 ? oneMerging(kind) : kind < 84 ? oneLook(kind) : oneSetting(kind);
+    }
+
+    /** An input that takes more than half of the disk can never leave it: that is kept rare. */
+    private int roomForInput() {
+        int blocks = plain.free.size() / 3 - plain.records(PlainSorter.NONE) / plain.per;
+        return chance.nextInt(4) == 0 ? blocks * plain.per : blocks;
+    }
+
+    private boolean mayCome() {
+        return roomForInput() > 0 || chance.nextInt(60) == 0;
     }
 
     private String[] oneMerging(int kind) {
@@ -107,7 +142,7 @@ public final class ModelTest {
     }
 
     private String[] oneLook(int kind) {
-        int run = number(0, plain.runs() - 1);
+        int run = plain.runs() > 0 ? number(0, plain.runs() - 1) : number(-1, 0);
         if (kind < 71) {
             int held = run >= 0 && run < plain.runs() ? plain.records(run) : 3;
             int i = number(0, held - 1);
@@ -146,7 +181,8 @@ public final class ModelTest {
             return both("mode " + m, () -> sorter.mode(m), () -> plain.mode(m));
         }
         if (kind < 98) {
-            int n = gentle ? NONE_OR_BAD[chance.nextInt(NONE_OR_BAD.length)] : number(-1, 60);
+            int n = gentle ? NONE_OR_BAD[chance.nextInt(NONE_OR_BAD.length)]
+                    : number(-1, chance.nextBoolean() ? 10 : 100);
             return both("crash " + n, () -> {
                 sorter.crash(n);
                 return 0;
