@@ -23,7 +23,7 @@ public final class BlockSorter {
     private final Scribe scribe;
     private final Memory memory;
     private final Merger merger;
-    private final Tapes tapes;
+    private final Tapes deck;
     /** The RUNS in order, each known by its first block. */
     private final Row shelf;
     /** Rows that one call works with. */
@@ -41,7 +41,7 @@ public final class BlockSorter {
         scribe = new Scribe(disk, order, files, blockCount);
         this.memory = new Memory(order, within(memory, 2, 64));
         merger = new Merger(disk, order, files, scribe);
-        tapes = new Tapes(blockCount);
+        deck = new Tapes(blockCount);
         shelf = new Row(blockCount);
         coming = new long[MOST_COLUMNS];
         chosen = new boolean[blockCount];
@@ -153,15 +153,15 @@ public final class BlockSorter {
             throw new IllegalArgumentException("there are 3 to 6 tapes");
         }
         needPower();
-        this.tapes.lay(shelf, tapes);
+        deck.lay(shelf, tapes);
         boolean done = true;
-        for (int level = this.tapes.level; level > 0 && done; level--) {
+        for (int level = deck.level; level > 0 && done; level--) {
             done = mergeLevel();
             if (done) {
-                this.tapes.goDown();
+                deck.goDown();
             }
         }
-        this.tapes.collect(shelf);
+        deck.collect(shelf);
         return answerFor(done);
     }
 
@@ -456,8 +456,8 @@ public final class BlockSorter {
 
     /** A group of no run at all stands for thought ones alone: its outcome is thought too. */
     private boolean mergeLevel() {
-        for (int left = tapes.stepsOfLevel(); left > 0; left--) {
-            tapes.gatherFronts(merger.group);
+        for (int left = deck.stepsOfLevel(); left > 0; left--) {
+            deck.gatherFronts(merger.group);
             int merged = merger.group.get(0);
             if (merger.group.size() > 1) {
                 merged = merger.merge(outMode);
@@ -465,7 +465,7 @@ public final class BlockSorter {
                     return false;
                 }
             }
-            tapes.shift(merged);
+            deck.shift(merged);
         }
         return true;
     }
