@@ -1,8 +1,5 @@
 /** Each promise by itself: ordinary inputs, the edges that the document names, wrong inputs. */
-public final class PromiseTest {
-    private static final int NONE = BlockSorter.NONE;
-    private static final int DOWN = BlockSorter.DOWN;
-
+public final class PromiseTest extends Bench {
     private PromiseTest() {
     }
 
@@ -32,71 +29,6 @@ public final class PromiseTest {
         order();
         whatComesFirst();
         Due.end();
-    }
-
-    // ---- helpers
-
-    private static void feedAll(BlockSorter x, long... values) {
-        for (long v : values) {
-            x.feed(v, 0, 0, 0);
-        }
-    }
-
-    /** READS, WRITES, WAY and the arm's place. */
-    private static String moves(BlockSorter x) {
-        return x.count(0) + " " + x.count(1) + " " + x.count(2) + " " + x.count(3);
-    }
-
-    private static String blocks(BlockSorter x, int run) {
-        StringBuilder text = new StringBuilder();
-        int per = x.count(6);
-        int held = run == NONE ? x.records(run) - x.count(7) : x.records(run);
-        for (int k = 0; k * per < held; k++) {
-            text.append(k == 0 ? "" : " ").append(x.block(run, k));
-        }
-        return text.toString();
-    }
-
-    /** Column 0 of the records of every run; the arm moves for it. */
-    private static String contents(BlockSorter x) {
-        return contents(x, 0);
-    }
-
-    private static String contents(BlockSorter x, int column) {
-        StringBuilder text = new StringBuilder();
-        for (int r = 0; r < x.runs(); r++) {
-            text.append(r == 0 ? "" : " | ");
-            for (int i = 0; i < x.records(r); i++) {
-                text.append(i == 0 ? "" : " ").append(x.told(r, i, column));
-            }
-        }
-        return text.toString();
-    }
-
-    /** PER is 2: five records on blocks 0, 1 and the desk, memory for 2. */
-    private static BlockSorter five() {
-        BlockSorter x = new BlockSorter(10, 5, 2);
-        feedAll(x, 5, 3, 7, 1, 2);
-        return x;
-    }
-
-    /** Runs as they are, of 3, 1, 2 and 1 records: 7 8 9 | 6 | 4 5 | 3. */
-    private static BlockSorter fourRuns(int blocks) {
-        BlockSorter x = new BlockSorter(blocks, 5, 2);
-        feedAll(x, 7, 8, 9, 6, 4, 5, 3);
-        x.form(2);
-        return x;
-    }
-
-    /** So many runs of one record each, n, n - 1, .., 1, on a block each. */
-    private static BlockSorter fallingRuns(int blocks, int n) {
-        BlockSorter x = new BlockSorter(blocks, 5, 2);
-        x.width(4);
-        for (int i = n; i > 0; i--) {
-            x.feed(i, 0, 0, 0);
-        }
-        x.form(2);
-        return x;
     }
 
     // ---- promise 1
