@@ -1,6 +1,6 @@
 /**
- * The boundaries that the document names under 'Terms' for FORMING and the MODE (part 2): one test for
- * each sentence, in its order, with answers counted by hand.
+ * The boundaries that the document names under 'Terms' for FORMING and the MODE (part 2): one
+ * test for each sentence, in its order, with answers counted by hand.
  */
 public final class FormingTest extends Bench {
     private FormingTest() {

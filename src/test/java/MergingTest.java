@@ -1,7 +1,6 @@
 /**
- * The boundaries that the document names under 'Terms' for MERGING, with a PASS, BEST
- * and POLY (part 3): one test for
- * each sentence, in its order, with answers counted by hand.
+ * The boundaries that the document names under 'Terms' for MERGING, with a PASS, BEST and POLY
+ * (part 3): one test for each sentence, in its order, with answers counted by hand.
  */
 public final class MergingTest extends Bench {
     private MergingTest() {

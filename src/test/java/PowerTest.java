@@ -1,7 +1,6 @@
 /**
- * The boundaries that the document names under 'Terms' for POWER that FAILS, a DISK that is
- * FULL, and exceptions (part 4): one test for
- * each sentence, in its order, with answers counted by hand.
+ * The boundaries that the document names under 'Terms' for POWER that FAILS, a DISK that is FULL,
+ * and exceptions (part 4): one test for each sentence, in its order, with answers counted by hand.
  */
 public final class PowerTest extends Bench {
     private PowerTest() {

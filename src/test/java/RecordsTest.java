@@ -1,7 +1,6 @@
 /**
  * The boundaries that the document names under 'Terms' for records, THE ORDER, THE DISK, FILES
- * and THE DESK (part 1): one test for
- * each sentence, in its order, with answers counted by hand.
+ * and THE DESK (part 1): one test for each sentence, in its order, with answers counted by hand.
  */
 public final class RecordsTest extends Bench {
     private RecordsTest() {
