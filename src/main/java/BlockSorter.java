@@ -227,7 +227,8 @@ public final class BlockSorter {
         int high = files.heldBy(shelf.get(run));
         for (int looks = high; looks > 0 && low < high; looks--) {
             int middle = (low + high) / 2;
-            if (order.isBeforeInFirstKey(look(shelf.get(run), middle, order.firstColumn()), value)) {
+            long found = look(shelf.get(run), middle, order.firstColumn());
+            if (order.isBeforeInFirstKey(found, value)) {
                 low = middle + 1;
             } else {
                 high = middle;

@@ -4,19 +4,25 @@ import java.lang.reflect.Constructor;
 import java.lang.reflect.Field;
 import java.lang.reflect.Method;
 import java.lang.reflect.Modifier;
+import java.util.List;
 import java.util.TreeSet;
 
-/** The public face and nothing beside it; and that calls make next to no objects. */
+/** The public face with its exceptions, nothing beside it; and that calls make no objects. */
 public final class FaceTest {
+    /** The exceptions by their letters: Index, Argument, State, Unsupported. */
     private static final String[] FACE = {
         "BlockSorter(int,int,int)",
         "int NONE", "int DOWN",
-        "void width(int)", "int key(int,boolean)", "int mode(int)",
-        "int feed(long,long,long,long)", "int run(long,int,int)", "int form(int)",
-        "int pass(int)", "int best(int)", "int poly(int)", "int plan(int)", "int runs()",
-        "int records(int)", "int block(int,int)", "long told(int,int,int)",
-        "int rank(int,long)", "int drop(int)", "int count(int)", "void crash(int)", "int up()",
+        "void width(int) AS", "int key(int,boolean) IAS", "int mode(int) AS",
+        "int feed(long,long,long,long) SU", "int run(long,int,int) AS", "int form(int) ASU",
+        "int pass(int) ASU", "int best(int) ASU", "int poly(int) ASU", "int plan(int) A",
+        "int runs()", "int records(int) I", "int block(int,int) I",
+        "long told(int,int,int) IS", "int rank(int,long) IS", "int drop(int) IS",
+        "int count(int) A", "void crash(int) AS", "int up() S",
     };
+    private static final List<Class<?>> KINDS = List.of(IndexOutOfBoundsException.class,
+            IllegalArgumentException.class, IllegalStateException.class,
+            UnsupportedOperationException.class);
 
     private FaceTest() {
     }
@@ -35,7 +41,8 @@ public final class FaceTest {
         TreeSet<String> seen = new TreeSet<>();
         for (Constructor<?> k : c.getDeclaredConstructors()) {
             if (!Modifier.isPrivate(k.getModifiers())) {
-                seen.add("BlockSorter" + arguments(k.getParameterTypes()));
+                seen.add("BlockSorter" + arguments(k.getParameterTypes())
+                        + exceptions(k.getExceptionTypes()));
             }
         }
         for (Field f : c.getDeclaredFields()) {
@@ -46,10 +53,10 @@ public final class FaceTest {
         for (Method m : c.getDeclaredMethods()) {
             if (!Modifier.isPrivate(m.getModifiers())) {
                 seen.add(m.getReturnType().getSimpleName() + " " + m.getName()
-                        + arguments(m.getParameterTypes()));
+                        + arguments(m.getParameterTypes()) + exceptions(m.getExceptionTypes()));
             }
         }
-        Due.is("the face", seen.toString(), new TreeSet<>(java.util.List.of(FACE)).toString());
+        Due.is("the face", seen.toString(), new TreeSet<>(List.of(FACE)).toString());
     }
 
     private static String arguments(Class<?>[] types) {
@@ -58,6 +65,15 @@ public final class FaceTest {
             text.append(text.length() == 1 ? "" : ",").append(t.getSimpleName());
         }
         return text.append(')').toString();
+    }
+
+    private static String exceptions(Class<?>[] types) {
+        StringBuilder text = new StringBuilder(types.length == 0 ? "" : " ");
+        for (Class<?> t : types) {
+            int kind = KINDS.indexOf(t);
+            text.append(kind < 0 ? t.getSimpleName() : "IASU".substring(kind, kind + 1));
+        }
+        return text.toString();
     }
 
     /** All calls of a run live in one room, so the constructor alone may make rows. */

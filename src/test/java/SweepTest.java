@@ -1,6 +1,6 @@
 /**
- * Every memory, fan and number of tapes, every number of runs, every point where power may fail
- * and every number of blocks that may be free, held against PlainSorter.
+ * Every memory, fan and number of tapes, numbers of runs from none on, and many points where power
+ * fails or the disk is full, held against PlainSorter.
  */
 public final class SweepTest {
     private static final int NONE = BlockSorter.NONE;
